@@ -48,13 +48,18 @@ final class Check {
     /** Feeds the bytes, filled up with blanks to whole twenties. */
     static void feed(SeanceStreet x, byte[] bytes) {
         for (int from = 0; from < bytes.length; from += 20) {
-            int[] numbers = new int[5];
-            for (int k = 0; k < 20; k++) {
-                int b = from + k < bytes.length ? bytes[from + k] & 255 : 32;
-                numbers[k / 4] = numbers[k / 4] << 8 | b;
-            }
+            int[] numbers = numbersOf(bytes, from);
             x.feed(numbers[0], numbers[1], numbers[2], numbers[3], numbers[4]);
         }
+    }
+
+    static int[] numbersOf(byte[] bytes, int from) {
+        int[] numbers = new int[5];
+        for (int k = 0; k < 20; k++) {
+            int b = from + k < bytes.length ? bytes[from + k] & 255 : 32;
+            numbers[k / 4] = numbers[k / 4] << 8 | b;
+        }
+        return numbers;
     }
 
     static int tell(SeanceStreet x, String text) {

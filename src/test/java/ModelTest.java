@@ -143,18 +143,21 @@ public final class ModelTest {
         byte[] bytes = Check.bytesOf(text);
         int size = x.size(10);
         Check.feed(x, bytes);
-        for (int from = 0; from < bytes.length; from += 20) {
-            int[] n = new int[5];
-            for (int k = 0; k < 20; k++) {
-                n[k / 4] = n[k / 4] << 8 | (from + k < bytes.length ? bytes[from + k] & 255 : 32);
-            }
-            model.feed(n[0], n[1], n[2], n[3], n[4]);
-            made++;
-        }
+        made += feed(model, bytes);
         compare("size(10)", x.size(10), model.size(10));
         int many = Math.min(size + bytes.length, 800);
         compare("town(" + many + ")", x.town(many), model.town(many));
         told(text);
+    }
+
+    private static int feed(Model into, byte[] bytes) {
+        int calls = 0;
+        for (int from = 0; from < bytes.length; from += 20) {
+            int[] n = Check.numbersOf(bytes, from);
+            into.feed(n[0], n[1], n[2], n[3], n[4]);
+            calls++;
+        }
+        return calls;
     }
 
     private void told(String text) {
@@ -201,14 +204,28 @@ public final class ModelTest {
                 lines.add("unsure " + NAMES.charAt(25 - d) + " " + random.nextInt(40));
             }
         }
+        heardLines(lines, people, dead);
+    }
+
+    /** Mostly what was heard with some of the slips being the other ones, so that something fits. */
+    private void heardLines(List<String> lines, int people, int dead) {
+        Model truth = new Model();
+        feed(truth, Check.bytesOf(String.join(";", lines)));
+        truth.town(truth.size(10));
+        for (String line : lines) {
+            if (line.startsWith("unsure") && random.nextBoolean()) {
+                String[] words = line.split(" ");
+                truth.teach(25 - NAMES.indexOf(words[1]), Integer.parseInt(words[2]));
+            }
+        }
         List<Integer> heard = new ArrayList<>();
         for (int k = 0; k < random.nextInt(9); k++) {
             int d = random.nextInt(dead);
             int night = random.nextInt(61);
             if (!heard.contains(d * 100 + night)) {
                 heard.add(d * 100 + night);
-                lines.add("heard " + NAMES.charAt(random.nextInt(people)) + " " + NAMES.charAt(25 - d) + " night "
-                    + night);
+                int who = random.nextInt(20) == 0 ? random.nextInt(people) : truth.hears(d, night);
+                lines.add("heard " + NAMES.charAt(who) + " " + NAMES.charAt(25 - d) + " night " + night);
             }
         }
     }
