@@ -1513,7 +1513,7 @@ public final class SeanceStreet {
         int place;
         long name;
         int whole;
-        private byte[] text;
+        private byte[] text = new byte[0];
         private int length;
         private int next;
 
