@@ -1077,8 +1077,12 @@ public final class SeanceStreet {
             return landingWith(d, aim, state.slip[d], state.mirror[d], night);
         }
 
+        private int aimOf(int d) {
+            return state.houseOf[town.forWhom[d]];
+        }
+
         int landing(int d, int night) {
-            return landingAimed(d, state.houseOf[town.forWhom[d]], night);
+            return landingAimed(d, aimOf(d), night);
         }
 
         int listenerAimed(int d, int aim, int night) {
@@ -1086,11 +1090,11 @@ public final class SeanceStreet {
         }
 
         int listener(int d, int night) {
-            return street.listenerAt(landing(d, night));
+            return street.listenerAt(landingAimed(d, aimOf(d), night));
         }
 
         int listenerFurtherOn(int d, int night) {
-            return street.listenerAt(town.around(landing(d, night) + 1));
+            return street.listenerAt(town.around(landingAimed(d, aimOf(d), night) + 1));
         }
 
         boolean isRight(int d, int night) {
@@ -1098,8 +1102,7 @@ public final class SeanceStreet {
         }
 
         boolean isRightWith(int d, int slip, int mirror, int night) {
-            int aim = state.houseOf[town.forWhom[d]];
-            return street.listenerAt(landingWith(d, aim, slip, mirror, night)) == town.forWhom[d];
+            return street.listenerAt(landingWith(d, aimOf(d), slip, mirror, night)) == town.forWhom[d];
         }
 
         int rightNightsWith(int d, int mirror) {
@@ -1115,7 +1118,7 @@ public final class SeanceStreet {
         int rightBits(int night) {
             int bits = 0;
             for (int d = 0; d < town.dead; d++) {
-                if (isRight(d, night)) {
+                if (listener(d, night) == town.forWhom[d]) {
                     bits |= 1 << d;
                 }
             }
@@ -1499,20 +1502,20 @@ public final class SeanceStreet {
         }
     }
 
-    /** The TOKENS of a text, one at a time; a name of up to eight letters is held as a number. */
+    /** The TOKENS of a text, one at a time; a WORD of up to eight letters is held as a number, as a WHOLE is. */
     private static final class Tokens {
         static final int END = 0;
         static final int WORD = 1;
         static final int WHOLE = 2;
         static final int PART = 3;
         static final int WRONG = 4;
+        private static final int BLANK = 5;
         private static final int MOST_LETTERS = 8;
         private static final int MOST_DIGITS = 3;
 
         int kind;
         int place;
-        long name;
-        int whole;
+        long value;
         private byte[] text = new byte[0];
         private int length;
         private int next;
@@ -1525,38 +1528,44 @@ public final class SeanceStreet {
         }
 
         void step() {
-            while (next < length && text[next] == ' ') {
+            while (next < length && sortAt(next) == BLANK) {
                 next++;
             }
             place = next;
-            if (next >= length) {
-                kind = END;
-            } else if (isLetter(text[next])) {
-                readWord();
-            } else if (isDigit(text[next])) {
-                readWhole();
-            } else {
-                kind = text[next] == ';' ? PART : WRONG;
+            kind = sortAt(place);
+            value = 0;
+            if (kind == WORD) {
+                while (next < length && sortAt(next) == WORD) {
+                    value = value * 27 + text[next] - 'a' + 1;
+                    next++;
+                }
+                kind = next - place > MOST_LETTERS ? WRONG : WORD;
+            } else if (kind == WHOLE) {
+                while (next < length && sortAt(next) == WHOLE) {
+                    value = value * 10 + text[next] - '0';
+                    next++;
+                }
+                kind = next - place > MOST_DIGITS ? WRONG : WHOLE;
+            } else if (kind != END) {
                 next++;
             }
         }
 
-        private void readWord() {
-            name = 0;
-            while (next < length && isLetter(text[next])) {
-                name = name * 27 + text[next] - 'a' + 1;
-                next++;
+        private int sortAt(int i) {
+            if (i < 0 || i >= length) {
+                return END;
             }
-            kind = next - place > MOST_LETTERS ? WRONG : WORD;
-        }
-
-        private void readWhole() {
-            whole = 0;
-            while (next < length && isDigit(text[next])) {
-                whole = whole * 10 + text[next] - '0';
-                next++;
+            byte b = text[i];
+            if (b >= 'a' && b <= 'z') {
+                return WORD;
             }
-            kind = next - place > MOST_DIGITS ? WRONG : WHOLE;
+            if (b >= '0' && b <= '9') {
+                return WHOLE;
+            }
+            if (b == ';') {
+                return PART;
+            }
+            return b == ' ' ? BLANK : WRONG;
         }
 
         boolean isWord(String word) {
@@ -1564,15 +1573,7 @@ public final class SeanceStreet {
             for (int i = 0; i < word.length(); i++) {
                 asked = asked * 27 + word.charAt(i) - 'a' + 1;
             }
-            return kind == WORD && name == asked;
-        }
-
-        private static boolean isLetter(byte b) {
-            return b >= 'a' && b <= 'z';
-        }
-
-        private static boolean isDigit(byte b) {
-            return b >= '0' && b <= '9';
+            return kind == WORD && value == asked;
         }
     }
 
@@ -1584,6 +1585,13 @@ public final class SeanceStreet {
         private static final int BOUNDS = 4;
         private static final int MANY = 5;
         private static final int LACKS = 6;
+
+        private static final int TOWN = 0;
+        private static final int PERSON = 1;
+        private static final int DEAD = 2;
+        private static final int MIRROR = 3;
+        private static final int UNSURE = 4;
+        private static final int HEARD = 5;
 
         final Town draft = new Town();
         int fault;
@@ -1598,11 +1606,14 @@ public final class SeanceStreet {
             faultPlace = NONE;
             draft.clear();
             tokens.begin(bytes, length);
-            readLine();
-            // Each line has a byte at the least, so there are no more lines than bytes.
-            for (int k = 0; k < length && fault == 0 && tokens.kind != Tokens.END; k++) {
-                takePart();
+            boolean isMore = true;
+            // Each line behind the first has its ; so there are no more lines than bytes and one.
+            for (int k = 0; k <= length && isMore; k++) {
                 readLine();
+                isMore = fault == 0 && tokens.kind != Tokens.END;
+                if (isMore) {
+                    takeToken(tokens.kind == Tokens.PART);
+                }
             }
             if (draft.people == 0) {
                 fail(LACKS, tokens.place);
@@ -1618,23 +1629,28 @@ public final class SeanceStreet {
         }
 
         private void readLine() {
-            if (fault != 0) {
-                return;
-            }
-            if (tokens.isWord("town")) {
-                readTown();
-            } else if (tokens.isWord("person")) {
-                readPerson();
-            } else if (tokens.isWord("dead")) {
-                readDead();
-            } else if (tokens.isWord("mirror")) {
-                readMirror();
-            } else if (tokens.isWord("unsure")) {
-                readUnsure();
-            } else if (tokens.isWord("heard")) {
-                readHeard();
-            } else {
-                fail(FORM, tokens.place);
+            switch (lineSort()) {
+                case TOWN:
+                    readTown();
+                    break;
+                case PERSON:
+                    readPerson();
+                    break;
+                case DEAD:
+                    readDead();
+                    break;
+                case MIRROR:
+                    readMirror();
+                    break;
+                case UNSURE:
+                    readUnsure();
+                    break;
+                case HEARD:
+                    readHeard();
+                    break;
+                default:
+                    fail(FORM, tokens.place);
+                    break;
             }
         }
 
@@ -1684,7 +1700,7 @@ public final class SeanceStreet {
             takeWord("slip");
             int slip = takeWhole(0, LAST_SLIP);
             takeWord("for");
-            int person = takePerson();
+            int person = takeTold(personName, draft.people);
             if (fault == 0) {
                 deadName[draft.dead] = name;
                 draft.law[draft.dead] = law;
@@ -1697,7 +1713,7 @@ public final class SeanceStreet {
 
         private void readMirror() {
             beginLine(false);
-            int d = takeDead();
+            int d = takeTold(deadName, draft.dead);
             if (fault == 0 && draft.first.mirror[d] >= 0) {
                 fail(AGAIN, takenPlace);
             }
@@ -1709,7 +1725,7 @@ public final class SeanceStreet {
 
         private void readUnsure() {
             beginLine(draft.unsure >= MOST_UNSURE);
-            int d = takeDead();
+            int d = takeTold(deadName, draft.dead);
             if (fault == 0 && draft.isUnsure(d)) {
                 fail(AGAIN, takenPlace);
             }
@@ -1723,8 +1739,8 @@ public final class SeanceStreet {
 
         private void readHeard() {
             beginLine(draft.heard >= MOST_HEARD);
-            int person = takePerson();
-            int d = takeDead();
+            int person = takeTold(personName, draft.people);
+            int d = takeTold(deadName, draft.dead);
             takeWord("night");
             int night = takeWhole(0, LAST_HEARD_NIGHT);
             if (fault == 0 && draft.isHeard(d, night)) {
@@ -1749,16 +1765,12 @@ public final class SeanceStreet {
             }
         }
 
-        private void takePart() {
-            takeToken(tokens.kind == Tokens.PART);
-        }
-
         private void takeWord(String word) {
             takeToken(tokens.isWord(word));
         }
 
         private int takeWhole(int least, int most) {
-            int whole = tokens.whole;
+            int whole = (int) tokens.value;
             takeToken(tokens.kind == Tokens.WHOLE);
             if (whole < least || whole > most) {
                 fail(BOUNDS, takenPlace);
@@ -1785,19 +1797,29 @@ public final class SeanceStreet {
             return tokens.isWord("swing") ? SWING : NONE;
         }
 
-        private long takeName() {
-            long name = tokens.name;
-            takeToken(tokens.kind == Tokens.WORD && !isLineWord());
-            return name;
-        }
-
-        private boolean isLineWord() {
-            return tokens.isWord("town") || tokens.isWord("person") || tokens.isWord("dead")
-                || tokens.isWord("mirror") || tokens.isWord("unsure") || tokens.isWord("heard");
+        /** The sort of LINE that the token begins, and that is no NAME therefore. */
+        private int lineSort() {
+            if (tokens.isWord("town")) {
+                return TOWN;
+            }
+            if (tokens.isWord("person")) {
+                return PERSON;
+            }
+            if (tokens.isWord("dead")) {
+                return DEAD;
+            }
+            if (tokens.isWord("mirror")) {
+                return MIRROR;
+            }
+            if (tokens.isWord("unsure")) {
+                return UNSURE;
+            }
+            return tokens.isWord("heard") ? HEARD : NONE;
         }
 
         private long takeNewName() {
-            long name = takeName();
+            long name = tokens.value;
+            takeToken(tokens.kind == Tokens.WORD && lineSort() == NONE);
             boolean isTold = find(name, personName, draft.people) >= 0 || find(name, deadName, draft.dead) >= 0;
             if (isTold) {
                 fail(AGAIN, takenPlace);
@@ -1805,16 +1827,9 @@ public final class SeanceStreet {
             return name;
         }
 
-        private int takePerson() {
-            return takeTold(personName, draft.people);
-        }
-
-        private int takeDead() {
-            return takeTold(deadName, draft.dead);
-        }
-
         private int takeTold(long[] names, int many) {
-            int found = find(takeName(), names, many);
+            int found = find(tokens.value, names, many);
+            takeToken(tokens.kind == Tokens.WORD && lineSort() == NONE);
             if (found < 0) {
                 fail(UNTOLD, takenPlace);
             }
