@@ -3,6 +3,8 @@ import java.nio.charset.StandardCharsets;
 /** What the project's tests share: telling texts, and counting the answers that are not as due. */
 final class Check {
     private final String name;
+    private String sentence = "";
+    private int sentences;
     private int wrong;
     private int calls;
 
@@ -10,12 +12,18 @@ final class Check {
         this.name = name;
     }
 
+    /** What is due from here on is due by this sentence of the document. */
+    void by(String words) {
+        sentence = " (by: " + words + ")";
+        sentences++;
+    }
+
     void due(String call, long got, long want) {
         calls++;
         if (got != want) {
             wrong++;
             if (wrong <= 40) {
-                System.out.println(name + ": " + call + " answered " + got + ", due is " + want);
+                System.out.println(name + ": " + call + " answered " + got + ", due is " + want + sentence);
             }
         }
     }
@@ -35,7 +43,8 @@ final class Check {
     }
 
     void end() {
-        System.out.println(name + ": " + calls + " answers, " + wrong + " not as due");
+        String by = sentences == 0 ? "" : " by " + sentences + " sentences";
+        System.out.println(name + ": " + calls + " answers" + by + ", " + wrong + " not as due");
         if (wrong != 0) {
             System.exit(1);
         }
