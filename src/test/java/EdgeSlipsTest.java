@@ -398,11 +398,8 @@ public final class EdgeSlipsTest {
         }
         CHECK.due("rights(65536, 99)", at.rights(65536, 99), 99);
         CHECK.due("rights(65536, 99)", below.rights(65536, 99), 99);
-        // A draw of 0, by seed 17,475 (26 times 65,537 less 74 and 75 times it are as many).
-        int zero = 0;
-        for (int seed = 0; seed <= 65536; seed++) {
-            zero = (75 * seed + 74) % 65537 == 0 ? seed : zero;
-        }
+        // 75 times 45,438 and 74 are 52 times 65,537.
+        int zero = 45438;
         CHECK.due("heardBy, a draw of 0, lips 0", lips(0).heardBy(0, zero, 0), 0);
         CHECK.due("heardBy, a draw of 0, lips 1", lips(1).heardBy(0, zero, 0), 1);
     }
