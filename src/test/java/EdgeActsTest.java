@@ -227,10 +227,61 @@ public final class EdgeActsTest {
         CHECK.due("dead(0, 1)", x.dead(0, 1), 1);
         CHECK.due("dead(0, 3)", x.dead(0, 3), 1);
         CHECK.due("size(7)", x.size(7), 1);
+        // Of nineteen acts the first three are forgotten, and what is left is of others each time.
+        SeanceStreet y = mixedActs(19);
+        for (int k = 19; k >= 4; k--) {
+            CHECK.due("undo() of act " + k, y.undo(), true);
+            CHECK.due("as it was ahead of act " + k, row(y), row(mixedActs(k - 1)));
+        }
+        CHECK.refused(y, "undo()", y.undo(), 6);
         x.move(0, 7);
         CHECK.due("size(8), acts are kept again", x.size(8), 1);
         CHECK.due("undo()", x.undo(), true);
         CHECK.due("person(0, 0)", x.person(0, 0), 1);
+    }
+
+    private static SeanceStreet mixedActs(int many) {
+        SeanceStreet y = Check.townOf("town houses 40 lips 0;person a house 0;person b house 1;dead x late slip 0 for a;"
+            + "dead y late slip 0 for b");
+        for (int k = 1; k <= many; k++) {
+            mixedAct(y, k);
+        }
+        return y;
+    }
+
+    private static void mixedAct(SeanceStreet y, int k) {
+        switch (k % 7) {
+            case 1:
+                y.move(0, 10 + k);
+                break;
+            case 2:
+                y.teach(1, k);
+                break;
+            case 3:
+                y.hang(0, k);
+                break;
+            case 4:
+                y.night();
+                break;
+            case 5:
+                y.move(1, 10 + k);
+                break;
+            case 6:
+                y.teach(0, k);
+                break;
+            default:
+                y.hang(1, k);
+                break;
+        }
+    }
+
+    private static long row(SeanceStreet y) {
+        int[] now = {y.person(0, 0), y.person(1, 0), y.dead(0, 1), y.dead(1, 1), y.dead(0, 3), y.dead(1, 3), y.size(7)};
+        long row = 0;
+        for (int number : now) {
+            row = row * 64 + number + 2;
+        }
+        return row;
     }
 
     private static void refusedActs() {

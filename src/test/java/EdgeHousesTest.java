@@ -7,6 +7,7 @@ public final class EdgeHousesTest {
         seatOfAll();
         likeSeatings();
         whoIsAlone();
+        seatingAnew();
         aimAtWherePeopleAre();
         noMoreIsNotLiked();
         restless();
@@ -16,6 +17,7 @@ public final class EdgeHousesTest {
         noStepsIfThereAreNone();
         eitherWayRound();
         whereverItEnds();
+        bringingAnew();
         fewestFrom();
         steps();
         ringOfOne();
@@ -84,6 +86,25 @@ public final class EdgeHousesTest {
         CHECK.due("seatAt(0, 99), of the houses NOW", x.seatAt(0, 99), 0);
     }
 
+    private static void seatingAnew() {
+        CHECK.by("27, 28: SEATING, of the night that is asked and the TOWN that is, whatever was asked before");
+        // 1 back is right in house 0 alone; on odd nights it is 1 on, right in no house.
+        String swing = Texts.people(6, 0, 5) + ";dead da swing slip 5 for pe";
+        SeanceStreet x = Check.townOf(swing);
+        CHECK.due("seatAt(4, 0), asked first", x.seatAt(4, 0), 0);
+        CHECK.due("seatAt(4, 1)", x.seatAt(4, 1), 4);
+        CHECK.due("seatAt(3, 0)", x.seatAt(3, 0), 4);
+        CHECK.due("seat(0)", x.seat(0), 1);
+        CHECK.due("seat(1)", x.seat(1), 0);
+        SeanceStreet six = Check.townOf(Texts.people(40, 0, 6) + Texts.dead(6, "late", 0, "pf"));
+        CHECK.due("seat(0), six people", six.seat(0), 6);
+        for (int people = 5; people >= 1; people--) {
+            Check.tell(six, Texts.people(40, 0, people) + ";dead x late slip 0 for pa");
+            CHECK.due("seat(0), fewer people", six.seat(0), 1);
+            CHECK.due("seatAt(0, 0)", six.seatAt(0, 0), 0);
+        }
+    }
+
     private static void aimAtWherePeopleAre() {
         CHECK.by("III: (the dead aim at where people are then)");
         SeanceStreet x = Check.townOf("town houses 5 lips 0;person a house 0;person b house 1;person c house 3;"
@@ -113,6 +134,8 @@ public final class EdgeHousesTest {
             + "dead x early slip 1 for a;dead y early slip 1 for b;dead z early slip 1 for a");
         CHECK.due("right(0)", more.right(0), 2);
         CHECK.due("likes(0, 1, 0), two for one", more.likes(0, 1, 0), 1);
+        CHECK.due("likes(1, 0, 0), the same two", more.likes(1, 0, 0), 1);
+        CHECK.due("likes(2, 0, 0), none for two", more.likes(2, 0, 0), 1);
         CHECK.due("likes(0, 2, 0), two for none", more.likes(0, 2, 0), 1);
         CHECK.due("likes(1, 2, 0), one for one", more.likes(1, 2, 0), 0);
         CHECK.due("restless(0)", more.restless(0), 2);
@@ -173,6 +196,8 @@ public final class EdgeHousesTest {
         CHECK.due("moveFor(0, 0), nowhere", last.moveFor(0, 0), -2);
         SeanceStreet end = Check.townOf("town houses 40 lips 0;person a house 1;person b house 0;dead x early slip 38 for a");
         CHECK.due("moveFor(0, 0), the last house", end.moveFor(0, 0), 39);
+        SeanceStreet first = Check.townOf("town houses 4 lips 0;person a house 2;person b house 1;dead x late slip 3 for a");
+        CHECK.due("moveFor(0, 0), the first house", first.moveFor(0, 0), 0);
         CHECK.due("person(0, 0), he stays", end.person(0, 0), 1);
         // Of all: b's move puts a's right.
         SeanceStreet all = Check.townOf("town houses 4 lips 0;person a house 1;person b house 0;dead x late slip 3 for a");
@@ -222,6 +247,32 @@ public final class EdgeHousesTest {
         CHECK.due("bring(0, 0), back round", apart.bring(0, 0), 12);
         CHECK.due("bring(2, 0)", apart.bring(2, 0), 14);
         CHECK.due("bringFrom(0)", apart.bringFrom(0), 0);
+        // Two pairs of neighbours hear each other's: to and fro, across, to and fro, five times three steps.
+        SeanceStreet pairs = Check.townOf("town houses 12 lips 0;person a house 0;person b house 3;person c house 6;"
+            + "person d house 9;dead u late slip 3 for a;dead v early slip 3 for b;dead w late slip 3 for c;"
+            + "dead x early slip 3 for d");
+        CHECK.due("bring(0, 0), two pairs", pairs.bring(0, 0), 15);
+        CHECK.due("bring(4, 0), two pairs", pairs.bring(4, 0), 16);
+        CHECK.due("bring(9, 0), two pairs", pairs.bring(9, 0), 15);
+    }
+
+    private static void bringingAnew() {
+        CHECK.by("32: BRING, of the night that is asked and the TOWN that is, whatever was asked before");
+        // On night n all is heard n houses on, in a ring of six: once round, or half round and back.
+        StringBuilder dead = new StringBuilder();
+        for (char p = 'a'; p <= 'f'; p++) {
+            dead.append(";dead d").append(p).append(" drift slip 1 for p").append(p);
+        }
+        SeanceStreet x = Check.townOf(Texts.people(6, 0, 6) + dead);
+        for (int night : new int[] {1, 0, 5, 6, 1}) {
+            CHECK.due("bring(0, " + night + ")", x.bring(0, night), night % 6 == 0 ? 0 : 6);
+        }
+        CHECK.due("bring(0, 3), half round and on", x.bring(0, 3), 8);
+        Check.tell(x, Texts.people(6, 0, 2) + ";dead x late slip 1 for pa");
+        CHECK.due("bring(0, 0), of another town", x.bring(0, 0), 2);
+        CHECK.due("bringFrom(0)", x.bringFrom(0), 1);
+        x.teach(0, 0);
+        CHECK.due("bring(0, 0), none now", x.bring(0, 0), 0);
     }
 
     private static void fewestFrom() {

@@ -214,7 +214,11 @@ public final class EdgeNightsTest {
         // Right when 2 m is the night, of 33: four nights, 0, 33, 66 and 99, for m 0, and three for any other.
         SeanceStreet four = Check.townOf("town houses 33 lips 0;person a house 0;person b house 32;"
             + "dead x drift slip 1 for a;mirror x 5");
-        CHECK.due("mirrorBest(0), by night 99", four.mirrorBest(0), 0);
+        CHECK.due("mirrorBest(0), by nights 0 and 99", four.mirrorBest(0), 0);
+        // Right when 2 m less 10 is the night, of 33: four nights for m 5, the last of them 99.
+        SeanceStreet five = Check.townOf("town houses 33 lips 0;person a house 5;person b house 4;"
+            + "dead x drift slip 1 for a");
+        CHECK.due("mirrorBest(0), by night 99", five.mirrorBest(0), 5);
         // A slip of 32 is one back: right when 2 m and the night are 33 or 0.
         SeanceStreet back = Check.townOf("town houses 33 lips 0;person a house 0;person b house 32;"
             + "dead x drift slip 32 for a");

@@ -9,6 +9,7 @@ public final class EdgeSlipsTest {
     public static void main(String[] args) {
         noUnsureDead();
         allSets();
+        setsOfAnotherTown();
         noSet();
         fitAt();
         theSameSlip();
@@ -61,6 +62,19 @@ public final class EdgeSlipsTest {
         CHECK.due("surely()", x.surely(), 0);
         CHECK.due("ask()", x.ask(), 0);
         CHECK.due("askLeaves()", x.askLeaves(), 8);
+    }
+
+    private static void setsOfAnotherTown() {
+        CHECK.by("37: FITS: how many (of the TOWN that is)");
+        SeanceStreet x = Check.townOf(FOUR);
+        Check.tell(x, FULL + ";unsure dc 1;heard pb dc night 0");
+        CHECK.due("fits()", x.fits(), 1);
+        CHECK.due("fitAt(0)", x.fitAt(0), 1);
+        CHECK.refused(x, "fitAt(1)", x.fitAt(1), -1, 1);
+        CHECK.due("judge()", x.judge(), 0);
+        Check.tell(x, FOUR);
+        CHECK.due("fits()", x.fits(), 16);
+        CHECK.due("judge()", x.judge(), -2);
     }
 
     private static void noSet() {
@@ -143,6 +157,8 @@ public final class EdgeSlipsTest {
         CHECK.due("could(), all", Check.townOf(FOUR).could(), 15);
         CHECK.due("could(), none", Check.townOf(FOUR + ";heard pa da night 0;heard pa db night 0;heard pa dc night 0;"
             + "heard pa dd night 0").could(), 0);
+        CHECK.due("could(), all in the one set", Check.townOf(FOUR + ";heard pb da night 0;heard pb db night 0;"
+            + "heard pb dc night 0;heard pb dd night 0").could(), 15);
         CHECK.due("could(), but the first", Check.townOf(FOUR + ";heard pa dd night 0").could(), 14);
     }
 
