@@ -1606,13 +1606,12 @@ public final class SeanceStreet {
             faultPlace = NONE;
             draft.clear();
             tokens.begin(bytes, length);
-            boolean isMore = true;
-            // Each line behind the first has its ; so there are no more lines than bytes and one.
-            for (int k = 0; k <= length && isMore; k++) {
-                readLine();
-                isMore = fault == 0 && tokens.kind != Tokens.END;
-                if (isMore) {
-                    takeToken(tokens.kind == Tokens.PART);
+            readLine();
+            // Each line behind the first has its ; so there are no more of those than bytes.
+            for (int k = 0; k < length && fault == 0 && tokens.kind != Tokens.END; k++) {
+                takeToken(tokens.kind == Tokens.PART);
+                if (fault == 0) {
+                    readLine();
                 }
             }
             if (draft.people == 0) {
