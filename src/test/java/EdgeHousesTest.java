@@ -273,6 +273,9 @@ public final class EdgeHousesTest {
         CHECK.due("bringFrom(0)", x.bringFrom(0), 1);
         x.teach(0, 0);
         CHECK.due("bring(0, 0), none now", x.bring(0, 0), 0);
+        // The same dead is for another now, who is farther off than the one he was for.
+        Check.tell(x, "town houses 40 lips 0;person a house 0;person b house 1;person c house 10;dead x early slip 9 for c");
+        CHECK.due("bring(1, 0), for another", x.bring(1, 0), 9);
     }
 
     private static void fewestFrom() {
